@@ -31,6 +31,8 @@ public final class CandleStockTest {
         CHECK.due("26 full, though one is out", x.candle(7), StageMachine.FULL);
         CHECK.due("26 BAD ahead of FULL", x.candle(0), StageMachine.BAD);
         CHECK.due("26 count", x.count(6), 60);
+        CHECK.row("29 of sixty", new int[] {x.light(0), x.light(1), x.light(2)}, 1, 59, 7);
+        CHECK.due("28 of sixty", x.trim(7), 58);
     }
 
     private static void minutes() {
@@ -71,6 +73,13 @@ public final class CandleStockTest {
         x.minutes(20);
         CHECK.due("29 dark", x.light(0), 2);
         CHECK.due("29 of the last", x.light(2), 10);
+        x.minutes(9);
+        CHECK.due("28 with its last minute", x.trim(1), 1);
+        CHECK.due("29 anew", x.light(2), 30);
+        StageMachine y = new StageMachine();
+        y.candle(300);
+        CHECK.due("28 just lit, all its minutes left", y.trim(300), 1);
+        CHECK.due("28 one less", y.trim(299), 0);
     }
 
     private static void light() {

@@ -11,7 +11,9 @@ public final class CueTest {
         faults();
         longTapes();
         back();
+        backOfTies();
         backEnds();
+        backEndsByTheFirst();
         backStays();
         backOfTheLast();
         CHECK.end();
@@ -155,6 +157,30 @@ public final class CueTest {
         CHECK.due("25 none", new StageMachine().back(), StageMachine.NOT);
     }
 
+    private static void backOfTies() {
+        StageMachine x = two();
+        x.tie(0, 0);
+        x.turn(12);
+        Check.playText(x, "u 0;t 1 0;s 10;");
+        CHECK.due("25 back", x.back(), 1);
+        CHECK.row("25 rope 0 is tied again", Check.ofRope(x, 0), 0, 1, 1, 99, 10, 0, 120, 0);
+        CHECK.row("25 rope 1 is untied again", Check.ofRope(x, 1), 1, 1, 1, 99, 10, -1, 0, 0);
+        CHECK.row("25 thing 0", Check.ofThing(x, 0), 0, 5, 10, 51, 0, 95, 0, 50);
+        CHECK.row("25 thing 1", Check.ofThing(x, 1), 1, 5, 10, 50, 0, 95, -1, -1);
+        CHECK.due("25 it can be tied", x.tie(1, 0), 89);
+        CHECK.due("25 the other can't", x.tie(0, 0), StageMachine.NOT);
+        x.turn(10);
+        CHECK.row("25 both go on", new int[] {x.ofThing(0, 3), x.ofThing(1, 3)}, 52, 51);
+
+        x = two();
+        x.tie(0, 0);
+        x.turn(120);
+        Check.playText(x, "u 0;t 0 0;s -50;");
+        CHECK.due("25 back", x.back(), 1);
+        CHECK.row("25 the same rope, tied anew", Check.ofRope(x, 0), 0, 1, 1, 99, 10, 0, 1200, 0);
+        CHECK.row("25 where it was tied", Check.ofThing(x, 0), 0, 5, 10, 62, 0, 95, 0, 50);
+    }
+
     /** A CUE was PLAYED that tied ROPE 0 and turned by 10. */
     private static StageMachine played() {
         StageMachine x = two();
@@ -188,6 +214,32 @@ public final class CueTest {
         x = played();
         x.turn(-1);
         CHECK.due("25 after a step", x.back(), StageMachine.NOT);
+    }
+
+    /** Answers of 0 are no refusals. */
+    private static void backEndsByTheFirst() {
+        StageMachine x = new StageMachine();
+        Check.playText(x, "s 1;");
+        CHECK.due("2 the first", x.thing(0, 1, 99, 5), 0);
+        CHECK.due("25 after the first thing", x.back(), StageMachine.NOT);
+        Check.playText(x, "s 1;");
+        CHECK.due("5 the first", x.drum(20), 0);
+        CHECK.due("25 after the first drum", x.back(), StageMachine.NOT);
+        Check.playText(x, "s 1;");
+        CHECK.due("6 the first", x.rope(0, 11, 5), 0);
+        CHECK.due("25 after the first rope", x.back(), StageMachine.NOT);
+        Check.playText(x, "s 1;");
+        CHECK.due("8 nothing to spare", x.tie(0, 0), 0);
+        CHECK.due("25 after such a tie", x.back(), StageMachine.NOT);
+        Check.playText(x, "s 1;");
+        CHECK.due("9 DONE", x.untie(0), 20);
+        CHECK.due("25 after untie", x.back(), StageMachine.NOT);
+        CHECK.due("24 nothing to spare", Check.playText(x, "t 0 0;"), 1);
+        CHECK.due("9 DONE 0", x.untie(0), 0);
+        CHECK.due("25 after untie", x.back(), StageMachine.NOT);
+        Check.playText(x, "t 0 0;");
+        CHECK.due("16 no fall", x.snap(0), 0);
+        CHECK.due("25 after such a break", x.back(), StageMachine.NOT);
     }
 
     private static void backStays() {

@@ -65,6 +65,8 @@ public final class SceneTest {
         CHECK.due("19 back", x.change(5, -100), 1);
         CHECK.due("19 most steps", x.change(5, -9999), StageMachine.NOT);
         CHECK.due("19 most steps forward", x.change(6, 9999), 0);
+        x.scene(9, 3, 60);
+        CHECK.due("19 the last scene", x.change(9, 100), 1);
     }
 
     private static void changeRefused() {
@@ -194,6 +196,10 @@ public final class SceneTest {
     private static void men() {
         StageMachine x = works(0, 0, 0);
         CHECK.due("22 no work", x.men(1), 0);
+        x = works(1, 0, 0);
+        CHECK.row("22 one of 2", new int[] {x.men(1), x.men(2)}, StageMachine.NOT, 1);
+        x = works(0, 1, 0);
+        CHECK.row("22 one of 3", new int[] {x.men(2), x.men(3)}, StageMachine.NOT, 1);
         x = works(3, 0, 0);
         CHECK.row("22 three of 2", new int[] {x.men(1), x.men(2), x.men(3), x.men(4), x.men(6)},
             StageMachine.NOT, 3, 3, 2, 1);

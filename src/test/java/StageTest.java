@@ -16,6 +16,7 @@ public final class StageTest {
         weights();
         bound();
         pull();
+        fullStage();
         CHECK.end();
     }
 
@@ -54,6 +55,7 @@ public final class StageTest {
         CHECK.due("2 nothing came of it", x.count(0), 4);
         CHECK.due("2 widest, heaviest", x.thing(1540, 60, 40, 999), 4);
         CHECK.due("2 lightest", x.thing(299, 1, 9999, 0), 5);
+        CHECK.due("2 it can't go", x.thing(600, 60, 0, 0), 6);
 
         StageMachine y = new StageMachine();
         for (int i = 0; i < 40; i++) {
@@ -281,5 +283,35 @@ public final class StageTest {
         CHECK.due("12 without a rope", x.pull(), -38 - 33 - 100);
         x.tie(0, 0);
         CHECK.due("12 tied anew", x.pull(), 23 - 38 - 33 - 100);
+    }
+
+    /** The number behind the last one is looked at where there is no room for it. */
+    private static void fullStage() {
+        StageMachine x = new StageMachine();
+        for (int i = 0; i < 40; i++) {
+            x.thing(i, 1, 99, 1);
+            x.rope(i, 11, 1);
+        }
+        for (int i = 0; i < 20; i++) {
+            x.drum(1);
+        }
+        CHECK.due("3 thing 40", x.ofThing(40, 0), -2);
+        CHECK.due("3 thing 39", x.ofThing(39, 3), 39);
+        CHECK.due("6 thing 40", x.rope(40, 11, 1), StageMachine.BAD);
+        CHECK.due("7 rope 40", x.ofRope(40, 0), StageMachine.VOID);
+        CHECK.due("8 rope 40", x.tie(40, 0), StageMachine.BAD);
+        CHECK.due("8 drum 20", x.tie(0, 20), StageMachine.BAD);
+        CHECK.due("8 drum 19", x.tie(39, 19), 0);
+        CHECK.due("9 rope 40", x.untie(40), StageMachine.VOID);
+        CHECK.due("16 rope 40", x.snap(40), StageMachine.BAD);
+        CHECK.due("18 thing 40", x.scene(0, 40, 0), -2);
+        CHECK.due("19 change", x.change(0, 1), 0);
+        CHECK.due("20 thing 40", x.told(40, 0), StageMachine.BAD);
+        CHECK.due("20 thing 39", x.told(39, 0), -1);
+        CHECK.due("13 turn", x.turn(100), 100);
+        CHECK.due("13 the last goes on", x.ofThing(39, 3), 40);
+        x.tie(37, 19);
+        CHECK.due("13 not on another's place", x.turn(100), 99);
+        CHECK.row("14 stopped", Check.stopped(x), 2, 37, 38);
     }
 }

@@ -8,6 +8,7 @@ public final class TurningTest {
         stoppedByBounds();
         stoppedByOthers();
         stoppedByPull();
+        stoppedOnTheWayBack();
         orderOfStops();
         stopped();
         free();
@@ -129,6 +130,25 @@ public final class TurningTest {
         CHECK.due("13 from -40 to 40", x.turn(5000), 80);
         CHECK.due("12 then", x.pull(), 40);
         CHECK.row("14 uneven again", Check.stopped(x), 3, -1, -1);
+    }
+
+    private static void stoppedOnTheWayBack() {
+        StageMachine x = single();
+        x.drum(1);
+        x.tie(0, 1);
+        CHECK.due("13 back", x.turn(-150), 150);
+        CHECK.due("12 one place less", x.pull(), 0);
+        x.bound(9);
+        CHECK.due("15 till DONE -100", x.free(200), 50);
+        CHECK.due("13 till DONE -100", x.turn(200), 50);
+        CHECK.row("14 uneven", Check.stopped(x), 3, -1, -1);
+        x.bound(99999);
+        CHECK.due("13 at DONE -99", x.turn(1), 1);
+        CHECK.due("13 where it was tied", x.ofThing(0, 3), 50);
+        x.bound(10);
+        CHECK.due("13 till DONE 99", x.turn(1000), 198);
+        CHECK.due("13 and till DONE -109, at 49", x.turn(-208), 208);
+        CHECK.due("12 within BOUND", x.pull(), 0);
     }
 
     private static void orderOfStops() {
