@@ -35,15 +35,19 @@ public final class StageMachine {
     private static final int WANTS = 6;
     private static final int PAINTS = 10;
 
-    private final Stage stage = new Stage();
-    private final Turning turning = new Turning(stage);
-    private final Change latestChange = new Change(stage);
+    private final Stage stage;
+    private final Turning turning;
+    private final Change latestChange;
     private final Tape tape = new Tape();
     private final Candles candles = new Candles();
     private final Stock stock = new Stock();
     private boolean cueCanGoBack;
 
     public StageMachine() {
+        Stage empty = new Stage();
+        stage = empty;
+        turning = new Turning(empty);
+        latestChange = new Change(empty);
     }
 
     // ---- what there is
@@ -164,7 +168,13 @@ public final class StageMachine {
         }
         stage.keep();
         cueCanGoBack = true;
-        return playLines();
+        for (int line = 0; line < tape.lineCount; line++) {
+            int answer = playLine(line);
+            if (answer != 0) {
+                return answer == STOPPED ? STOPPED : -1000 - line;
+            }
+        }
+        return tape.lineCount;
     }
 
     public int back() {
@@ -236,19 +246,6 @@ public final class StageMachine {
         return answer;
     }
 
-    private int playLines() {
-        for (int line = 0; line < tape.lineCount; line++) {
-            int answer = playLine(line);
-            if (answer == STOPPED) {
-                return STOPPED;
-            }
-            if (answer == NOT) {
-                return -1000 - line;
-            }
-        }
-        return tape.lineCount;
-    }
-
     /** 0 if the LINE was done, NOT if it was refused, STOPPED if its turn was. */
     private int playLine(int line) {
         int first = tape.firsts[line];
@@ -257,16 +254,8 @@ public final class StageMachine {
             case 't': return stage.tieRope(first, second) >= 0 ? 0 : NOT;
             case 'u': return stage.untieRope(first) != VOID ? 0 : NOT;
             case 'w': return stage.setWeight(first, second) != VOID ? 0 : NOT;
-            default: return playTurn(first);
+            default: return turning.turnBy(first) == Math.abs(first) ? 0 : STOPPED;
         }
-    }
-
-    private int playTurn(int n) {
-        if (!isTurn(n)) {
-            return NOT;
-        }
-        turning.turnBy(n);
-        return turning.latest.kind == 0 ? 0 : STOPPED;
     }
 
     private static boolean isTurn(int n) {
@@ -277,13 +266,13 @@ public final class StageMachine {
         return least <= value && value <= most;
     }
 
-    /** The rest away, toward 0; the divisor is looked at here, once for all. */
+    /** The rest away, toward 0; all divisors that are no constants are looked at here and below. */
     private static int quotient(int dividend, int divisor) {
         return divisor == 0 ? 0 : dividend / divisor;
     }
 
     private static int quotientUp(int dividend, int divisor) {
-        return quotient(dividend + divisor - 1, divisor);
+        return divisor == 0 ? 0 : (dividend + divisor - 1) / divisor;
     }
 
     private static boolean overlap(int at, int width, int otherAt, int otherWidth) {
@@ -412,8 +401,8 @@ public final class StageMachine {
             return from + way * quotient(hundredths, PLACES * gear);
         }
 
-        int placeAfter(int steps) {
-            return drum == null ? thing.at : placeFrom(start, done + drum.size * steps);
+        int doneAfter(int steps) {
+            return drum == null ? done : done + drum.size * steps;
         }
 
         int pullAt(int place) {
@@ -440,7 +429,7 @@ public final class StageMachine {
 
         void advance(int steps) {
             if (drum != null) {
-                done += drum.size * steps;
+                done = doneAfter(steps);
                 thing.at = placeFrom(start, done);
             }
         }
@@ -620,7 +609,8 @@ public final class StageMachine {
         void place(int steps) {
             for (int i = 0; i < thingCount; i++) {
                 Thing thing = things[i];
-                thing.trialAt = thing.tied == null ? thing.at : thing.tied.placeAfter(steps);
+                Rope tied = thing.tied;
+                thing.trialAt = tied == null ? thing.at : tied.placeFrom(tied.start, tied.doneAfter(steps));
             }
         }
 
@@ -787,7 +777,7 @@ public final class StageMachine {
             ahead.put(0, -1, -1);
             for (int step = 1; step <= most; step += Math.max(1, stepsToNextMove(direction, step))) {
                 stage.place(direction * step);
-                if (isBeyond() || isMeeting() || isUneven()) {
+                if (isBeyond() || isMeeting() || isUneven(stage.trialPull())) {
                     return step - 1;
                 }
             }
@@ -825,8 +815,8 @@ public final class StageMachine {
             return false;
         }
 
-        private boolean isUneven() {
-            if (Math.abs(stage.trialPull()) <= stage.bound) {
+        private boolean isUneven(int pull) {
+            if (Math.abs(pull) <= stage.bound) {
                 return false;
             }
             ahead.put(UNEVEN, -1, -1);
@@ -1111,7 +1101,7 @@ public final class StageMachine {
 
         /** The next byte, or -1 at the end. */
         private int peek() {
-            return isWithin(next, 0, length - 1) ? bytes[next] : -1;
+            return next >= 0 && next < length ? bytes[next] : -1;
         }
     }
 
