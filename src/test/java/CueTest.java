@@ -8,6 +8,7 @@ public final class CueTest {
         lines();
         refusedLines();
         stoppedLines();
+        stoppedByTheLatestTurn();
         faults();
         longTapes();
         back();
@@ -108,6 +109,30 @@ public final class CueTest {
         x.bound(0);
         CHECK.due("24 uneven", Check.playText(x, "w 0 1;u 0;s 0;s 1;s 1;"), StageMachine.STOPPED);
         CHECK.row("14 uneven", Check.stopped(x), 3, -1, -1);
+    }
+
+    /** A CUE without a turn, and one that is not PLAYED, leave what stopped() tells. */
+    private static void stoppedByTheLatestTurn() {
+        StageMachine x = two();
+        x.tie(0, 0);
+        x.turn(9999);
+        CHECK.due("24 no turn", Check.playText(x, "w 0 1;w 0 0;"), 2);
+        CHECK.row("14 no turn", Check.stopped(x), 1, 0, -1);
+        CHECK.due("24 refused ahead of its turn", Check.playText(x, "u 1;s -1;"), -1000);
+        CHECK.row("14 refused ahead of its turn", Check.stopped(x), 1, 0, -1);
+        CHECK.due("24 a FAULT", Check.playText(x, "s -1;s -1"), -109);
+        CHECK.row("14 a FAULT", Check.stopped(x), 1, 0, -1);
+        CHECK.due("24 refused behind its turn", Check.playText(x, "s -1;u 1;"), -1001);
+        CHECK.row("14 refused behind its turn", Check.stopped(x), 0, -1, -1);
+        x.turn(9999);
+        x.weight(0, 5000);
+        x.bound(0);
+        CHECK.due("24 a turn by 0 is not STOPPED, though uneven", Check.playText(x, "s 0;s -0;s 0000;"), 3);
+        CHECK.row("14 a turn by 0", Check.stopped(x), 0, -1, -1);
+        CHECK.due("24 the latest of several turns", Check.playText(x, "w 0 0;u 0;s 1;w 0 1;s -1;"), StageMachine.STOPPED);
+        CHECK.row("14 the latest of several turns", Check.stopped(x), 3, -1, -1);
+        x.back();
+        CHECK.row("25 stopped() stays", Check.stopped(x), 3, -1, -1);
     }
 
     private static void faults() {

@@ -10,8 +10,10 @@ public final class SceneTest {
         notFound();
         work();
         workIsOfTheChange();
+        workAnew();
         men();
         menShareExactly();
+        menOfAllWorks();
         menRefused();
         CHECK.end();
     }
@@ -172,6 +174,20 @@ public final class SceneTest {
         CHECK.due("22 as it was asked for", x.men(3), 1);
     }
 
+    /** Each change() counts its own works, whatever the one before it had. */
+    private static void workAnew() {
+        StageMachine x = works(4, 3, 2);
+        for (int i = 0; i < 3; i++) {
+            CHECK.row("21 the same change again", new int[] {x.change(0, 100), x.work(0), x.work(1), x.men(27), x.men(26)},
+                5, 27, 9, 1, 2);
+        }
+        CHECK.row("21 nothing is to be moved: the tied ones are untied", new int[] {x.change(1, 100), x.work(0), x.work(1)},
+            0, 12, 6);
+        x.scene(1, 0, 99 - 2);
+        CHECK.row("21 NOT", new int[] {x.change(1, 100), x.work(0), x.work(1)}, StageMachine.NOT, -2, -2);
+        CHECK.row("21 and found again", new int[] {x.change(0, 100), x.work(0), x.work(1)}, 5, 27, 9);
+    }
+
     /** So many works of 2, 3 and 5 minutes in a change by 100 steps. */
     private static StageMachine works(int twos, int threes, int fives) {
         StageMachine x = new StageMachine();
@@ -227,6 +243,54 @@ public final class SceneTest {
         x = works(0, 0, 12);
         CHECK.due("22 twelve of 5 in 9 minutes", x.men(9), 12);
         CHECK.due("22 twelve of 5 in 99 minutes", x.men(99), 1);
+    }
+
+    /** All of up to 12 works of the three kinds, for each time, beside a plain search. */
+    private static void menOfAllWorks() {
+        for (int twos = 0; twos <= 12; twos++) {
+            for (int threes = 0; twos + threes <= 12; threes++) {
+                for (int fives = 0; twos + threes + fives <= 12; fives++) {
+                    menOf(twos, threes, fives);
+                }
+            }
+        }
+    }
+
+    private static void menOf(int twos, int threes, int fives) {
+        StageMachine x = works(twos, threes, fives);
+        int longest = fives > 0 ? 5 : threes > 0 ? 3 : twos > 0 ? 2 : 0;
+        for (int t = 1; t <= 2 * twos + 3 * threes + 5 * fives + 1; t++) {
+            int men = 0;
+            while (longest <= t && !canShare(new int[men], twos, threes, fives, t)) {
+                men++;
+            }
+            CHECK.due("22 " + twos + " of 2, " + threes + " of 3, " + fives + " of 5 in " + t, x.men(t),
+                longest > t ? StageMachine.NOT : men);
+        }
+    }
+
+    /** The longest works first, each to one man after the other, of those with as many minutes to one alone. */
+    private static boolean canShare(int[] loads, int twos, int threes, int fives, int t) {
+        int minutes = fives > 0 ? 5 : threes > 0 ? 3 : 2;
+        if (twos + threes + fives == 0) {
+            return true;
+        }
+        for (int man = 0; man < loads.length; man++) {
+            boolean alike = false;
+            for (int i = 0; i < man; i++) {
+                alike |= loads[i] == loads[man];
+            }
+            if (!alike && loads[man] + minutes <= t) {
+                loads[man] += minutes;
+                boolean can = canShare(loads, twos - (minutes == 2 ? 1 : 0), threes - (minutes == 3 ? 1 : 0),
+                    fives - (minutes == 5 ? 1 : 0), t);
+                loads[man] -= minutes;
+                if (can) {
+                    return true;
+                }
+            }
+        }
+        return false;
     }
 
     private static void menRefused() {
