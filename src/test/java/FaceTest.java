@@ -7,6 +7,7 @@ import java.nio.file.Files;
 import java.nio.file.Path;
 import java.util.Set;
 import java.util.TreeSet;
+import java.util.regex.Matcher;
 import java.util.regex.Pattern;
 
 /** The public face is the document's and no more; and the rules of LANGUAGE.md that a text can be searched for. */
@@ -17,8 +18,16 @@ public final class FaceTest {
         + "turn1 stopped1 free1 snap1 hold1 scene3 change2 told2 work1 men1 feed2 play0 back0 candle1 minutes1 trim1 "
         + "light1 flat2 want2 paint0 given1 count1";
     private static final String[] RULED_OUT = {"\\bthrow\\b", "\\bthrows\\b", "\\btry\\b", "\\bcatch\\b",
-        "\\bsynchronized\\b", "\\bassert\\b", "->", "::", "\\bprotected\\b", "\\bpackage\\b", "\\bExact\\b",
+        "\\bsynchronized\\b", "\\bassert\\b", "->", "::", "\\bprotected\\b", "\\bpackage\\b", "Exact\\b",
         "\\bSystem\\.(?!arraycopy)", "\\bRandom\\b", "\\bThread\\b", "\\bhashCode\\b", "\\bstatic\\s*\\{"};
+    /** What the class takes of the library, all of it within rule 4. */
+    private static final Set<String> LIBRARY = Set.of("Arrays.fill", "Integer.bitCount", "Math.abs", "Math.max",
+        "Math.min", "System.arraycopy");
+    private static final Pattern LIBRARY_CALL =
+        Pattern.compile("\\b(Arrays|Boolean|Character|Double|Integer|List|Long|Math|String|System)\\.\\w+");
+    /** A divisor that is neither a number nor a constant. */
+    private static final Pattern OPEN_DIVISOR = Pattern.compile("[/%]=?\\s*[(a-z]");
+    private static final Pattern METHOD_HEAD = Pattern.compile("( {4}| {8})\\w[^;=]*\\) \\{");
 
     public static void main(String[] args) throws IOException {
         constants();
@@ -101,5 +110,41 @@ public final class FaceTest {
                 CHECK.holds(line, line.equals("import java.util.Arrays;"));
             }
         }
+        library(code);
+        divisors(code);
+        lengths(text.split("\n"));
+    }
+
+    private static void library(String code) {
+        Matcher call = LIBRARY_CALL.matcher(code.replace("import java.util.Arrays;", ""));
+        while (call.find()) {
+            CHECK.holds(call.group() + " is allowed", LIBRARY.contains(call.group()));
+        }
+    }
+
+    /** Each stands behind a look at it, in the same line. */
+    private static void divisors(String code) {
+        for (String line : code.split("\n")) {
+            if (OPEN_DIVISOR.matcher(line).find()) {
+                CHECK.holds("looked at ahead: " + line, line.contains("divisor == 0 ? 0 :"));
+            }
+        }
+    }
+
+    /** Heads of loops and branches match, too; they are within a method, so they do no harm. */
+    private static void lengths(String[] lines) {
+        int heads = 0;
+        for (int i = 0; i < lines.length; i++) {
+            Matcher head = METHOD_HEAD.matcher(lines[i]);
+            if (head.matches()) {
+                heads++;
+                int end = i;
+                while (end < lines.length && !lines[end].equals(head.group(1) + "}")) {
+                    end++;
+                }
+                CHECK.holds("sixty lines at most: " + lines[i], end - i < 60);
+            }
+        }
+        CHECK.holds("heads were found, here " + heads, heads > 100);
     }
 }
